@@ -280,7 +280,10 @@ public final class SignalNetwork {
         }
 
         int setSize(int x, int y) {
-            return isExchange(x) && isExchange(y) ? setSizes[x * EXCHANGES + y] : 0;
+            if (x < 0 || x >= EXCHANGES || y < 0 || y >= EXCHANGES) {
+                return 0;
+            }
+            return setSizes[x * EXCHANGES + y];
         }
 
         boolean areNeighbours(int x, int y) {
@@ -404,7 +407,7 @@ public final class SignalNetwork {
         }
 
         void drop(int n) {
-            int dropped = Math.max(0, Math.min(n, size));
+            int dropped = n < size ? n : size;
             head += dropped;
             head = head < ring.length ? head : head - ring.length;
             size -= dropped;
@@ -426,7 +429,7 @@ public final class SignalNetwork {
         /** Writes the octets into the row, which has room for MOST_OCTETS; answers how many. */
         int spell(int[] row) {
             int count = type < FILL ? spellState(row) : spellNumbered(row);
-            int check = check(row, count);
+            int check = checkOf(row, count);
             row[count] = check & 255;
             row[count + 1] = check >> 8;
             return count + 2;
@@ -458,7 +461,7 @@ public final class SignalNetwork {
             return 11;
         }
 
-        private static int check(int[] row, int count) {
+        private static int checkOf(int[] row, int count) {
             int c = 65535;
             for (int i = 0; i < 8 * count; i++) {
                 int bit = row[i / 8] >> i % 8 & 1;
@@ -876,6 +879,8 @@ public final class SignalNetwork {
         private static final int CHANGEOVER_TIME = 10;
         private static final int CHANGEBACK_TIME = 20;
         private static final int CHANGEBACKS = 256;
+        /** An OVER's first number is the link and so many times the LIFE. */
+        private static final int LINK_ROOM = 16;
         private static final int MOST_HOPS = 8;
         private static final int UNTOLD = 0;
 
@@ -964,7 +969,7 @@ public final class SignalNetwork {
                 if (on && end.state == OUT && end.timer == 0) {
                     start(end);
                 } else if (!on && end.state != OUT) {
-                    fail(end, true);
+                    fail(end);
                 }
             }
         }
@@ -997,7 +1002,7 @@ public final class SignalNetwork {
             int type = damaged || plan.cut[end.link] ? BAD : other.unit.type;
             int asked = end.hear(type, other.unit.life);
             if (asked == End.FAILS) {
-                fail(end, true);
+                fail(end);
             }
             if (asked == End.COMES_UP) {
                 comeUp(end);
@@ -1124,12 +1129,19 @@ public final class SignalNetwork {
             flow.timer = clock.after(CHANGEBACK_TIME);
         }
 
-        /** The other exchange is told of it unless it was that which told. */
-        private void fail(End end, boolean tells) {
+        private void fail(End end) {
+            if (takeOut(end)) {
+                goOtherWay(end.exchange, end.neighbour, overOf(end, OVER));
+                look(end.exchange);
+            }
+        }
+
+        /** True when it was in service, so that a changeover is under way now. */
+        private boolean takeOut(End end) {
             boolean served = end.state == IN_SERVICE;
             end.fallOut();
             if (!served) {
-                return;
+                return false;
             }
             end.changeover = clock.after(CHANGEOVER_TIME);
             for (int s = 0; s < LANES; s++) {
@@ -1138,30 +1150,29 @@ public final class SignalNetwork {
                     flow.holdFor(end);
                 }
             }
-            if (tells) {
-                sendOver(end, OVER);
-            }
-            look(end.exchange);
+            return true;
         }
 
-        private void sendOver(End end, int kind) {
-            int first = end.link + 16 * end.life;
-            long message = Message.of(kind, end.exchange, end.neighbour, 0, first, end.window.taken);
-            goOtherWay(end.exchange, end.neighbour, message);
+        private static long overOf(End end, int kind) {
+            int first = end.link + LINK_ROOM * end.life;
+            return Message.of(kind, end.exchange, end.neighbour, 0, first, end.window.taken);
         }
 
-        /** OVER or OVERED; of an earlier life of the link it is too late. */
+        /** OVER or OVERED; of another life of the link it comes too late. */
         private void changeOver(int x, long message) {
-            int link = Message.first(message) % 16;
+            int link = Message.first(message) % LINK_ROOM;
+            int life = Message.first(message) / LINK_ROOM;
             End end = endOf(link, Message.from(message) < x ? 1 : 0);
-            if (end == null || end.exchange != x || end.peer != Message.first(message) / 16) {
+            if (end == null || end.exchange != x || end.peer != life) {
                 return;
             }
             if (Message.kind(message) == OVER) {
+                // The other exchange knows: it needs no OVER of this end's failing.
                 if (end.state == IN_SERVICE) {
-                    fail(end, false);
+                    takeOut(end);
+                    look(x);
                 }
-                sendOver(end, OVERED);
+                goOtherWay(x, end.neighbour, overOf(end, OVERED));
             }
             endChangeover(end, Message.second(message));
         }
@@ -1244,24 +1255,25 @@ public final class SignalNetwork {
         /** Tells the neighbours what they don't know yet of what can be reached by x. */
         void look(int x) {
             for (int d = 0; d < EXCHANGES; d++) {
-                if (d == x) {
-                    continue;
-                }
-                Flow way = wayTo(x, d, 0, NONE);
-                for (int neighbour = 0; neighbour < EXCHANGES; neighbour++) {
-                    Flow flow = flowTo(x, neighbour, 0);
-                    if (flow != null && neighbour != d && flow.isOpen()) {
-                        tellOf(flow, x, d, way == null || way == flow ? CLOSED : OPENED);
-                    }
+                if (d != x) {
+                    lookAt(x, d);
                 }
             }
         }
 
-        private void tellOf(Flow flow, int x, int d, int kind) {
-            int place = placeOf(x, flow.neighbour, d);
-            if (told[place] != kind) {
-                told[place] = kind;
-                give(flow, Message.of(kind, x, flow.neighbour, 0, d, 0));
+        private void lookAt(int x, int d) {
+            Flow way = wayTo(x, d, 0, NONE);
+            for (int neighbour = 0; neighbour < EXCHANGES; neighbour++) {
+                Flow flow = flowTo(x, neighbour, 0);
+                if (flow == null || neighbour == d || !flow.isOpen()) {
+                    continue;
+                }
+                int kind = way == null || way == flow ? CLOSED : OPENED;
+                int place = placeOf(x, neighbour, d);
+                if (told[place] != kind) {
+                    told[place] = kind;
+                    give(flow, Message.of(kind, x, neighbour, 0, d, 0));
+                }
             }
         }
 
@@ -1284,13 +1296,13 @@ public final class SignalNetwork {
                 if (end.state == PROVING) {
                     end.becomeReady();
                 } else if (end.state != OUT) {
-                    fail(end, true);
+                    fail(end);
                 } else if (plan.active[end.link]) {
                     start(end);
                 }
             }
             if (clock.isOut(end.window.timer)) {
-                fail(end, true);
+                fail(end);
             }
         }
 
@@ -1487,7 +1499,10 @@ public final class SignalNetwork {
 
         boolean call(int number, int wanted) {
             Leg caller = subscriberAt(number);
-            if (caller == null || caller.state != Leg.IDLE || subscriberAt(wanted) == null || number == wanted) {
+            if (caller == null || subscriberAt(wanted) == null) {
+                return false;
+            }
+            if (caller.state != Leg.IDLE || number == wanted) {
                 return false;
             }
             caller.state = Leg.CALLING;
