@@ -649,7 +649,8 @@ public final class SignalNetwork {
         }
 
         void fallOut() {
-            enter(OUT, OUT_TIME);
+            state = OUT;
+            timer = clock.after(OUT_TIME);
             window.stop();
         }
 
@@ -702,7 +703,8 @@ public final class SignalNetwork {
         }
 
         private void prove(int time) {
-            enter(PROVING, time);
+            state = PROVING;
+            timer = clock.after(time);
             provingTime = time;
             errors = 0;
         }
@@ -1213,6 +1215,7 @@ public final class SignalNetwork {
             for (int left = queue.size; left > 0; left--) {
                 long message = queue.takeFirst();
                 int kind = Message.kind(message);
+                // They were about the order on this link; on another one they would say nothing.
                 if (kind == BACK || kind == BACKED) {
                     continue;
                 }
@@ -1254,20 +1257,14 @@ public final class SignalNetwork {
 
         /** Tells the neighbours what they don't know yet of what can be reached by x. */
         void look(int x) {
-            for (int d = 0; d < EXCHANGES; d++) {
-                if (d != x) {
-                    lookAt(x, d);
-                }
-            }
-        }
-
-        private void lookAt(int x, int d) {
-            Flow way = wayTo(x, d, 0, NONE);
-            for (int neighbour = 0; neighbour < EXCHANGES; neighbour++) {
+            for (int i = 0; i < PAIRS; i++) {
+                int d = i / EXCHANGES;
+                int neighbour = i % EXCHANGES;
                 Flow flow = flowTo(x, neighbour, 0);
-                if (flow == null || neighbour == d || !flow.isOpen()) {
+                if (flow == null || !flow.isOpen() || d == x || d == neighbour) {
                     continue;
                 }
+                Flow way = wayTo(x, d, 0, NONE);
                 int kind = way == null || way == flow ? CLOSED : OPENED;
                 int place = placeOf(x, neighbour, d);
                 if (told[place] != kind) {

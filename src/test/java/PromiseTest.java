@@ -73,6 +73,10 @@ public final class PromiseTest {
         changebackAgain();
         readyTooLong();
         completeWhenIdle();
+        completeOfAnotherCount();
+        urgentAtOneEnd();
+        readyAnew();
+        overIsLostWhenFull();
         wrongArguments();
         System.out.println(wrong == 0 ? "promises: all answers are as due" : wrong + " answers are not as due");
         if (wrong != 0) {
@@ -1687,6 +1691,117 @@ public final class PromiseTest {
         x.tick(2);
         due("idle", x.circuit(0, 1, 0, 0), 0);
         due("kind", x.counted(3), 11);
+    }
+
+    private static void completeOfAnotherCount() {
+        about = "17 circuit: COMPLETE of an earlier call";
+        SignalNetwork x = triangle();
+        x.route(1, 0, 2, NONE);
+        x.route(0, 2, 2, NONE);
+        x.tick(10);
+        x.dial(0, 10);
+        x.hang(0);
+        x.tick(2);
+        // COMPLETE goes to 2, which keeps it: its link to 0 fails, and no OVER comes from there.
+        x.activate(2, false);
+        x.route(1, 0, 0, NONE);
+        x.tick(1);
+        due("kept", x.flow(2, 0, 0, 2), 1);
+        x.tick(1);
+        due("idle", x.circuit(0, 1, 0, 0), 0);
+        due("count", x.circuit(0, 1, 0, 6), 1);
+        x.dial(10, 0);
+        due("count", x.circuit(1, 0, 0, 6), 2);
+        x.tick(1);
+        x.hang(10);
+        x.tick(5);
+        due("idle", x.circuit(0, 1, 0, 0), 0);
+        due("count", x.circuit(0, 1, 0, 6), 2);
+        for (int i = 0; i < 20 && x.circuit(0, 1, 0, 0) == 0; i++) {
+            x.tick(1);
+        }
+        due("resets", x.circuit(0, 1, 0, 0), 8);
+        due("count", x.circuit(0, 1, 0, 6), 1);
+        x.tick(5);
+        due("idle", x.circuit(0, 1, 0, 0), 0);
+        due("there", x.circuit(1, 0, 0, 0) + x.circuit(1, 0, 0, 6), 2);
+    }
+
+    private static void urgentAtOneEnd() {
+        about = "12 end: urgent at one end";
+        SignalNetwork x = pair(1);
+        x.link(0, 1);
+        for (int i = 0; i < 10 && x.end(0, 1, 0) == 5; i++) {
+            x.damage(0, 1, 1);
+            x.tick(1);
+        }
+        due("still in service at 0", x.end(0, 0, 0), 5);
+        x.activate(1, true);
+        due("urgent", x.end(1, 0, 10), 0);
+        due("urgent", x.end(1, 1, 10), 1);
+        x.tick(2);
+        due("PROVE", x.octet(1, 0, 3), 2 + 4);
+        due("PROVE", x.octet(1, 1, 3), 3 + 4);
+        x.tick(1);
+        due("proving of 3", x.end(1, 0, 1), 2);
+        due("proving of 3", x.end(1, 1, 1), 2);
+    }
+
+    private static void readyAnew() {
+        about = "12 end: READY anew";
+        SignalNetwork x = pair(1);
+        x.block(0, 1, 0, true);
+        x.tick(10);
+        due("sent", x.end(0, 0, 2), 4);
+        x.block(0, 1, 1, true);
+        x.tick(1);
+        x.damage(0, 1, 1);
+        x.tick(4);
+        due("forward", x.end(0, 0, 4), 0);
+        due("credit", x.end(0, 1, 8), 1);
+        x.activate(0, false);
+        x.tick(15);
+        due("sent stays", x.end(0, 0, 2), 5);
+        due("forward stays", x.end(0, 0, 4), 0);
+        due("credit stays", x.end(0, 1, 8), 1);
+        int done = x.counted(2);
+        x.activate(0, true);
+        x.tick(4);
+        due("sent stays", x.end(0, 0, 2), 5);
+        x.tick(1);
+        for (int side = 0; side < 2; side++) {
+            int[] anew = {4, 15, 127, 127, 1, 1, 0, 0, 0, 1, 1, 0, 0, 0, 2, 2};
+            for (int what = 0; what < 16; what++) {
+                due("end(0, " + side + ", " + what + ")", x.end(0, side, what), anew[what]);
+            }
+        }
+        x.tick(1);
+        // No flow was open: all is told anew, four CLOSED each way.
+        due("next(0, 2, 21)", x.next(0, 2, 21), 1);
+        x.tick(8);
+        due("done", x.counted(2), done + 8);
+        // The 15th unit since READY is the one in tick 15 behind it.
+        x.damage(0, 0, 1);
+        x.tick(1);
+        due("credit", x.end(0, 0, 8), 1);
+        x.tick(5);
+        due("credit", x.end(0, 0, 8), 1);
+        x.tick(1);
+        due("credit", x.end(0, 0, 8), 0);
+    }
+
+    private static void overIsLostWhenFull() {
+        about = "19 counted: an OVER is the 65th";
+        SignalNetwork x = pair(2);
+        for (int i = 0; i < 64; i++) {
+            x.block(0, 1, 0, i % 2 == 0);
+        }
+        due("waiting", x.end(0, 0, 7), 64);
+        due("lost", x.counted(1), 0);
+        x.activate(1, false);
+        due("waiting", x.end(0, 0, 7), 64);
+        due("waiting", x.end(0, 1, 7), 1);
+        due("lost", x.counted(1), 1);
     }
 
     // ---------------------------------------------------------------- wrong arguments everywhere
