@@ -1,5 +1,8 @@
 /** The boundary cases that PART 4 of the Terms names: one test for each sentence. */
 public final class CallBoundaryTest extends Boundaries {
+    /** Where the sentences stand, and the promises by which they are seen. */
+    private static final String PART_4 = "Promises 7 to 11, 17 and 18, PART 4";
+
     /** What circuit() is asked for; 0 is STATE, 1 TIMER. */
     private static final int BLOCKED_HERE = 2;
     private static final int BLOCKED_THERE = 3;
@@ -39,6 +42,7 @@ public final class CallBoundaryTest extends Boundaries {
         initialWhenItControls();
         initialWhenItDoesNot();
         initialYieldsWithoutAnother();
+        initialYieldsFirst();
         initialWhenReleasing();
         completeWhenIdle();
         answerWhenIdle();
@@ -46,9 +50,12 @@ public final class CallBoundaryTest extends Boundaries {
         answerOfAnotherCount();
         completeTwice();
         releaseOfAnotherCount();
+        releaseIn7();
         releasedOfAnotherCount();
+        releasedInACall();
         resetOfAnotherCount();
         resetOfItsOwnCount();
+        resetIn7();
         blockedThere();
         timerOf1();
         timerOf2();
@@ -61,14 +68,10 @@ public final class CallBoundaryTest extends Boundaries {
         finish("boundaries of calls");
     }
 
-    private static void tickTo(Net n, int tick) {
-        n.tick(tick - n.tick(0));
-    }
-
     // ---------------------------------------------------------------- COUNT
 
     private static void countModulo64() {
-        sentence("PART 4", "Its COUNT (0 at first, modulo 64) tells its calls apart");
+        sentence(PART_4, "Its COUNT (0 at first, modulo 64) tells its calls apart");
         Net n = pair(1);
         due(n.circuit(0, 1, 0, COUNT), 0);
         for (int i = 1; i <= 66; i++) {
@@ -89,7 +92,7 @@ public final class CallBoundaryTest extends Boundaries {
     }
 
     private static void countAheadOfInitial() {
-        sentence("PART 4", "an end that sends an INITIAL has 1 more ahead of that");
+        sentence(PART_4, "an end that sends an INITIAL has 1 more ahead of that");
         Net n = pair(1);
         n.dial(0, 10);
         due(n.circuit(0, 1, 0, COUNT), 1);
@@ -110,7 +113,8 @@ public final class CallBoundaryTest extends Boundaries {
     }
 
     private static void firstNumberOfReleased() {
-        sentence("PART 4", "their first number is c and 4 times the COUNT of the end that sends them, but that which came, of a RELEASED");
+        sentence(PART_4, "their first number is c and 4 times the COUNT of the end that sends them, but that which "
+            + "came, of a RELEASED");
         Net n = lateRelease();
         // A RELEASE of COUNT 1 came to an end with COUNT 2.
         due(n.circuit(1, 0, 0, COUNT), 2);
@@ -121,7 +125,8 @@ public final class CallBoundaryTest extends Boundaries {
     // ---------------------------------------------------------------- CONNECT
 
     private static void connectHereNotIdle() {
-        sentence("PART 4", "of this exchange: the subscriber, if idle, is RINGING .. if it isn't idle, the leg is LET GO");
+        sentence(PART_4, "of this exchange: the subscriber, if idle, is RINGING .. if it isn't idle, the leg is LET "
+            + "GO");
         Net n = new Net();
         due(n.dial(0, 1), true);
         due(n.subscriber(1, 0), RINGING);
@@ -145,7 +150,7 @@ public final class CallBoundaryTest extends Boundaries {
     }
 
     private static void connectThereNotIdle() {
-        sentence("PART 4", "if it isn't idle, the leg is LET GO");
+        sentence(PART_4, "if it isn't idle, the leg is LET GO");
         Net n = pair(1);
         n.dial(11, 10);
         n.dial(0, 10);
@@ -162,7 +167,7 @@ public final class CallBoundaryTest extends Boundaries {
     }
 
     private static void connectNoNeighbour() {
-        sentence("PART 4", "of the first neighbour told for e, then of the second");
+        sentence(PART_4, "of the first neighbour told for e, then of the second");
         Net n = pair(1);
         // None is told for 2; for 3 two that are no neighbours.
         due(n.dial(0, 20), true);
@@ -178,7 +183,7 @@ public final class CallBoundaryTest extends Boundaries {
     }
 
     private static void connectFirstThenSecond() {
-        sentence("PART 4", "of the first neighbour told for e, then of the second .. the lowest circuit that is idle");
+        sentence(PART_4, "of the first neighbour told for e, then of the second .. the lowest circuit that is idle");
         Net n = triangle();
         for (int c = 0; c < 4; c++) {
             n.dial(c, 10 + c);
@@ -193,7 +198,7 @@ public final class CallBoundaryTest extends Boundaries {
     }
 
     private static void connectNotBack() {
-        sentence("PART 4", "but not of the one to which the leg itself leads");
+        sentence(PART_4, "but not of the one to which the leg itself leads");
         Net n = triangle();
         // At 2 the first told for 1 is 0, from where the call comes; the second has no free circuit.
         n.route(2, 1, 0, 1);
@@ -217,7 +222,7 @@ public final class CallBoundaryTest extends Boundaries {
     }
 
     private static void connectWithoutMessages() {
-        sentence("PART 4", "(whatever can be reached by messages)");
+        sentence(PART_4, "(whatever can be reached by messages)");
         Net n = new Net();
         n.link(0, 1);
         n.route(0, 1, 1, NONE);
@@ -238,7 +243,7 @@ public final class CallBoundaryTest extends Boundaries {
     }
 
     private static void connectLowest() {
-        sentence("PART 4", "the lowest circuit that is idle, and blocked neither here nor there");
+        sentence(PART_4, "the lowest circuit that is idle, and blocked neither here nor there");
         Net n = pair(1);
         n.block(0, 1, 0, true);
         n.block(1, 0, 1, true);
@@ -258,7 +263,7 @@ public final class CallBoundaryTest extends Boundaries {
     }
 
     private static void connectNone() {
-        sentence("PART 4", "None: the leg is let go.");
+        sentence(PART_4, "None: the leg is let go.");
         Net n = pair(1);
         for (int c = 0; c < 4; c++) {
             n.block(0, 1, c, true);
@@ -274,7 +279,7 @@ public final class CallBoundaryTest extends Boundaries {
     }
 
     private static void connectNoneOnTheWay() {
-        sentence("PART 4", "None: the leg is let go. LENGTH");
+        sentence(PART_4, "None: the leg is let go. LENGTH");
         Net n = row(3);
         for (int c = 0; c < 4; c++) {
             n.block(1, 2, c, true);
@@ -314,7 +319,7 @@ public final class CallBoundaryTest extends Boundaries {
     }
 
     private static void lengthOfSix() {
-        sentence("PART 4", "1 if the leg is a subscriber, else 1 more than that of the leg, which an INITIAL told it");
+        sentence(PART_4, "1 if the leg is a subscriber, else 1 more than that of the leg, which an INITIAL told it");
         Net n = circle();
         n.dial(0, 43);
         // At 2 the call is in tick 3, and once more in tick 6, when a circuit to 4 is free.
@@ -341,7 +346,7 @@ public final class CallBoundaryTest extends Boundaries {
     }
 
     private static void lengthOfSeven() {
-        sentence("PART 4", "where it would be 7 no circuit is looked for, and the leg is let go");
+        sentence(PART_4, "where it would be 7 no circuit is looked for, and the leg is let go");
         Net n = circle();
         n.dial(0, 43);
         n.tick(7);
@@ -356,7 +361,7 @@ public final class CallBoundaryTest extends Boundaries {
     }
 
     private static void lengthZero() {
-        sentence("PART 4", "LENGTH (how many circuits the call has up to it; 0 in 0, 7, 8)");
+        sentence(PART_4, "LENGTH (how many circuits the call has up to it; 0 in 0, 7, 8)");
         Net n = new Net();
         n.link(0, 1);
         n.route(0, 1, 1, NONE);
@@ -383,7 +388,7 @@ public final class CallBoundaryTest extends Boundaries {
     // ---------------------------------------------------------------- BACK, LET GO
 
     private static void goesBackToOthers() {
-        sentence("PART 4", "COMPLETE: a CALLING subscriber is HEARING; a circuit in 4 sends COMPLETE, and is in 5");
+        sentence(PART_4, "COMPLETE: a CALLING subscriber is HEARING; a circuit in 4 sends COMPLETE, and is in 5");
         Net n = row(3);
         n.dial(0, 20);
         n.tick(3);
@@ -405,7 +410,7 @@ public final class CallBoundaryTest extends Boundaries {
     }
 
     private static void letGoOfSubscribers() {
-        sentence("PART 4", "a subscriber RINGING is IDLE, CALLING, HEARING or TALKING: ENDED");
+        sentence(PART_4, "a subscriber RINGING is IDLE, CALLING, HEARING or TALKING: ENDED");
         Net n = new Net();
         n.dial(0, 1);
         n.hang(0);
@@ -433,7 +438,7 @@ public final class CallBoundaryTest extends Boundaries {
     }
 
     private static void letGoOfACircuit() {
-        sentence("PART 4", "a circuit in 1 to 6 sends a RELEASE, and is in 7, with two timers: 6 and 30");
+        sentence(PART_4, "a circuit in 1 to 6 sends a RELEASE, and is in 7, with two timers: 6 and 30");
         // In 1, 2 and 3 by hanging the caller, in 5 and 6 there is no other way than these.
         int[] ticks = {0, 3, 5};
         for (int state = 1; state <= 3; state++) {
@@ -472,7 +477,8 @@ public final class CallBoundaryTest extends Boundaries {
     // ---------------------------------------------------------------- INITIAL
 
     private static void initialWhenBlocked() {
-        sentence("PART 4", "INITIAL: idle (blocked or not): it is in 4, with that COUNT and LENGTH, and CONNECTED to the number");
+        sentence(PART_4, "INITIAL: idle (blocked or not): it is in 4, with that COUNT and LENGTH, and CONNECTED to "
+            + "the number");
         Net n = pair(1);
         // Blocked here a moment ago: the other end doesn't know yet.
         n.block(1, 0, 0, true);
@@ -508,7 +514,8 @@ public final class CallBoundaryTest extends Boundaries {
     }
 
     private static void initialWhenItControls() {
-        sentence("PART 4", "(circuits 0 and 2 are controlled by the exchange with the higher number, 1 and 3 by the other one)");
+        sentence(PART_4, "(circuits 0 and 2 are controlled by the exchange with the higher number, 1 and 3 by the "
+            + "other one)");
         for (int c = 0; c < 4; c++) {
             Net n = bothAsk(c);
             int controls = c % 2 == 0 ? 1 : 0;
@@ -522,7 +529,7 @@ public final class CallBoundaryTest extends Boundaries {
     }
 
     private static void initialWhenItDoesNot() {
-        sentence("PART 4", "then that leg is connected to the number that it wanted, anew");
+        sentence(PART_4, "then that leg is connected to the number that it wanted, anew");
         Net n = bothAsk(0);
         due(n.circuit(0, 1, 0, LEG), 1);
         due(n.subscriber(1, 0), RINGING);
@@ -541,8 +548,8 @@ public final class CallBoundaryTest extends Boundaries {
     }
 
     private static void initialYieldsWithoutAnother() {
-        sentence("PART 4", "its leg is joined no more; it is in 4, with that COUNT and LENGTH, and connected to the number; then that leg is "
-            + "connected to the number that it wanted, anew");
+        sentence(PART_4, "its leg is joined no more; it is in 4, with that COUNT and LENGTH, and connected to the "
+            + "number; then that leg is connected to the number that it wanted, anew");
         // Circuit 3 is the last: at 1, which doesn't control it, no other is left.
         Net n = bothAsk(3);
         due(n.subscriber(11, 0), ENDED);
@@ -558,8 +565,31 @@ public final class CallBoundaryTest extends Boundaries {
         due(m.subscriber(0, 1), 111);
     }
 
+    private static void initialYieldsFirst() {
+        sentence(PART_4, "and connected to the number; then that leg is connected to the number that it wanted, anew");
+        // At 0, which doesn't control circuit 0 to 1, both need a circuit to 2: the call that comes is first.
+        Net n = triangle();
+        for (int c = 1; c < 4; c++) {
+            n.block(0, 1, c, true);
+        }
+        n.route(1, 2, 0, NONE);
+        n.tick(8);
+        n.dial(0, 10);
+        n.dial(11, 20);
+        due(n.subscriber(0, 1), 110);
+        due(n.subscriber(11, 1), 100);
+        n.tick(2);
+        due(n.circuit(0, 1, 0, STATE), 4);
+        due(n.circuit(0, 1, 0, LEG), 120);
+        due(n.circuit(0, 2, 0, NUMBER), 20);
+        due(n.circuit(0, 2, 0, LENGTH), 2);
+        due(n.subscriber(0, 1), 121);
+        due(n.circuit(0, 2, 1, NUMBER), 10);
+        due(n.circuit(0, 2, 1, LENGTH), 1);
+    }
+
     private static void initialWhenReleasing() {
-        sentence("PART 4", "What isn't told is nothing.");
+        sentence(PART_4, "What isn't told is nothing.");
         // Exchange 0 releases circuit 0 while exchange 1 asks on it: in 7 an INITIAL is nothing.
         Net n = pair(1);
         n.dial(0, 10);
@@ -600,7 +630,7 @@ public final class CallBoundaryTest extends Boundaries {
     }
 
     private static void completeWhenIdle() {
-        sentence("PART 4", "COMPLETE, ANSWER, when idle: it has that COUNT, sends a RESET, and is in 8, timer 30");
+        sentence(PART_4, "COMPLETE, ANSWER, when idle: it has that COUNT, sends a RESET, and is in 8, timer 30");
         Net n = lateComplete();
         due(n.circuit(0, 1, 0, STATE), 8);
         due(n.circuit(0, 1, 0, TIMER), 29);
@@ -613,7 +643,7 @@ public final class CallBoundaryTest extends Boundaries {
     }
 
     private static void answerWhenIdle() {
-        sentence("PART 4", "ANSWER, when idle: it has that COUNT, sends a RESET, and is in 8");
+        sentence(PART_4, "ANSWER, when idle: it has that COUNT, sends a RESET, and is in 8");
         Net n = lateAnswer();
         // Its COUNT was 1 when it was idle; a call from 1 makes it 2, and ends, ahead of the ANSWER.
         n.dial(11, 1);
@@ -637,7 +667,8 @@ public final class CallBoundaryTest extends Boundaries {
     }
 
     private static void completeOfAnotherCount() {
-        sentence("PART 4", "With its own COUNT: COMPLETE in 1: it is in 2, timer 60, and that goes back to the other leg");
+        sentence(PART_4, "With its own COUNT: COMPLETE in 1: it is in 2, timer 60, and that goes back to the other "
+            + "leg");
         // COMPLETE of COUNT 1 waits at 2 behind twelve, and comes in tick 74; that of COUNT 2 in 75.
         Net n = triangle();
         give(n, 2, 0, 0, 12);
@@ -684,7 +715,7 @@ public final class CallBoundaryTest extends Boundaries {
     }
 
     private static void answerOfAnotherCount() {
-        sentence("PART 4", "With its own COUNT: .. ANSWER in 2: it is in 3, without a timer, likewise");
+        sentence(PART_4, "With its own COUNT: .. ANSWER in 2: it is in 3, without a timer, likewise");
         Net n = lateAnswer();
         n.dial(0, 10);
         n.tick(3);
@@ -705,7 +736,7 @@ public final class CallBoundaryTest extends Boundaries {
     }
 
     private static void completeTwice() {
-        sentence("PART 4", "COMPLETE in 1 .. ANSWER in 2");
+        sentence(PART_4, "COMPLETE in 1 .. ANSWER in 2");
         // ANSWER overtakes COMPLETE, which comes by 2, and is nothing in 1; COMPLETE comes behind it.
         Net n = triangle();
         give(n, 2, 0, 0, 6);
@@ -756,7 +787,7 @@ public final class CallBoundaryTest extends Boundaries {
     }
 
     private static void releaseOfAnotherCount() {
-        sentence("PART 4", "RELEASE: it sends RELEASED; in 1 to 6, with its own COUNT, it is idle then");
+        sentence(PART_4, "RELEASE: it sends RELEASED; in 1 to 6, with its own COUNT, it is idle then");
         Net n = lateRelease();
         due(n.counted(KIND), 10);
         due(n.circuit(1, 0, 0, STATE), 5);
@@ -780,8 +811,57 @@ public final class CallBoundaryTest extends Boundaries {
         due(m.circuit(0, 1, 0, STATE), 0);
     }
 
+    private static void releaseIn7() {
+        sentence(PART_4, "RELEASE: it sends RELEASED; in 1 to 6, with its own COUNT, it is idle then, and the other "
+            + "leg is let go");
+        Net n = pair(1);
+        n.dial(0, 10);
+        n.tick(3);
+        n.answer(10);
+        n.tick(2);
+        n.hang(0);
+        n.hang(10);
+        n.tick(2);
+        // Both release: the RELEASE of the other is answered, but only RELEASED makes it idle.
+        due(n.counted(KIND), 10);
+        due(n.circuit(0, 1, 0, STATE), 7);
+        due(n.circuit(1, 0, 0, STATE), 7);
+        due(n.octet(0, 0, 3), 11);
+        n.tick(1);
+        due(n.circuit(0, 1, 0, STATE), 0);
+        due(n.circuit(1, 0, 0, STATE), 0);
+    }
+
+    private static void releasedInACall() {
+        sentence(PART_4, "RELEASED with its own COUNT: in 7 and 8 it is idle. .. What isn't told is nothing.");
+        // The INITIAL of COUNT 1 and the first RELEASE are the 65th and LOST, so 1 knows nothing of the
+        // call; the RELEASEs that go again wait behind 64, and go in ticks 125, 126, ..
+        Net n = pair(1);
+        give(n, 0, 1, 0, 64);
+        n.dial(0, 10);
+        n.hang(0);
+        due(n.counted(LOST), 2);
+        tickTo(n, 126);
+        due(n.octet(0, 0, 3), 10);
+        due(n.octet(0, 1, 3), 11);
+        due(n.circuit(1, 0, 0, COUNT), 0);
+        // Between the first RELEASED and the second an INITIAL goes, which has COUNT 1 too.
+        n.dial(11, 1);
+        due(n.circuit(1, 0, 0, COUNT), 1);
+        n.tick(1);
+        due(n.circuit(0, 1, 0, STATE), 0);
+        n.tick(1);
+        due(n.circuit(0, 1, 0, STATE), 5);
+        due(n.circuit(0, 1, 0, COUNT), 1);
+        due(n.octet(0, 1, 3), 11);
+        due(n.octet(0, 1, 8), 4);
+        n.tick(1);
+        due(n.circuit(0, 1, 0, STATE), 5);
+        due(n.subscriber(1, 0), RINGING);
+    }
+
     private static void releasedOfAnotherCount() {
-        sentence("PART 4", "RELEASED with its own COUNT: in 7 and 8 it is idle");
+        sentence(PART_4, "RELEASED with its own COUNT: in 7 and 8 it is idle");
         Net n = lateRelease();
         n.hang(0);
         due(n.circuit(0, 1, 0, STATE), 7);
@@ -796,7 +876,7 @@ public final class CallBoundaryTest extends Boundaries {
     }
 
     private static void resetOfAnotherCount() {
-        sentence("PART 4", "RESET: it sends RELEASED; with its own COUNT it is idle then");
+        sentence(PART_4, "RESET: it sends RELEASED; with its own COUNT it is idle then");
         // The RESET of COUNT 1 comes to 1 in tick 70; there the circuit has been asked for anew.
         Net n = lateComplete();
         n.dial(12, 2);
@@ -818,7 +898,7 @@ public final class CallBoundaryTest extends Boundaries {
     }
 
     private static void resetOfItsOwnCount() {
-        sentence("PART 4", "with its own COUNT it is idle then, and, if it was in 1 to 6, the other leg is let go");
+        sentence(PART_4, "with its own COUNT it is idle then, and, if it was in 1 to 6, the other leg is let go");
         // Exchange 0 gives the call up, but has no way for its RELEASEs, till it resets in 30 ticks.
         Net n = pair(1);
         n.dial(0, 10);
@@ -859,8 +939,31 @@ public final class CallBoundaryTest extends Boundaries {
         due(m.circuit(0, 1, 0, STATE), 8);
     }
 
+    private static void resetIn7() {
+        sentence(PART_4, "RESET: it sends RELEASED; with its own COUNT it is idle then, and, if it was in 1 to 6");
+        // Exchange 0 has no way for its RELEASEs, resets in tick 93, and again in 123, when 1 is in 7.
+        Net n = pair(1);
+        n.dial(0, 10);
+        n.tick(3);
+        n.route(0, 1, NONE, NONE);
+        n.hang(0);
+        n.answer(10);
+        tickTo(n, 120);
+        n.route(1, 0, NONE, NONE);
+        n.hang(10);
+        n.route(0, 1, 1, NONE);
+        due(n.circuit(1, 0, 0, STATE), 7);
+        n.tick(3);
+        due(n.circuit(1, 0, 0, STATE), 7);
+        due(n.octet(0, 0, 3), 12);
+        n.tick(1);
+        due(n.circuit(1, 0, 0, STATE), 0);
+        due(n.circuit(1, 0, 0, TIMER), 0);
+        due(n.circuit(0, 1, 0, STATE), 8);
+    }
+
     private static void blockedThere() {
-        sentence("PART 4", "BLOCK, UNBLOCK: it is blocked there, or no more.");
+        sentence(PART_4, "BLOCK, UNBLOCK: it is blocked there, or no more.");
         Net n = pair(1);
         n.block(0, 1, 3, true);
         n.tick(2);
@@ -881,7 +984,7 @@ public final class CallBoundaryTest extends Boundaries {
     // ---------------------------------------------------------------- timers
 
     private static void timerOf1() {
-        sentence("PART 4", "Timers OUT: of 1 and 2: the circuit is let go, then the other leg.");
+        sentence(PART_4, "Timers OUT: of 1 and 2: the circuit is let go, then the other leg.");
         // COMPLETE behind 18 messages comes in tick 80, ahead of the timers; behind 19 it is too late.
         Net n = pair(1);
         give(n, 1, 0, 0, 18);
@@ -908,7 +1011,7 @@ public final class CallBoundaryTest extends Boundaries {
     }
 
     private static void timerOf2() {
-        sentence("PART 4", "it is in 2, timer 60");
+        sentence(PART_4, "it is in 2, timer 60");
         // COMPLETE comes in tick 63: OUT in the looking of tick 122.
         Net n = pair(1);
         n.dial(0, 10);
@@ -936,7 +1039,7 @@ public final class CallBoundaryTest extends Boundaries {
     }
 
     private static void timerOf3() {
-        sentence("PART 4", "it is in 3, without a timer");
+        sentence(PART_4, "it is in 3, without a timer");
         Net n = pair(1);
         n.dial(0, 10);
         n.tick(3);
@@ -951,7 +1054,7 @@ public final class CallBoundaryTest extends Boundaries {
     }
 
     private static void firstTimerOf7() {
-        sentence("PART 4", "Of 7: the first: it sends RELEASE again, that timer is 6");
+        sentence(PART_4, "Of 7: the first: it sends RELEASE again, that timer is 6");
         // RELEASED behind three comes in the sixth tick, ahead of the timers: no second RELEASE.
         Net n = pair(1);
         n.dial(0, 10);
@@ -982,7 +1085,7 @@ public final class CallBoundaryTest extends Boundaries {
     }
 
     private static void secondTimerOf7() {
-        sentence("PART 4", "the second (looked at behind the first): it sends a RESET, and is in 8, timer 30");
+        sentence(PART_4, "the second (looked at behind the first): it sends a RESET, and is in 8, timer 30");
         Net n = pair(1);
         n.dial(0, 10);
         n.tick(3);
@@ -1008,7 +1111,7 @@ public final class CallBoundaryTest extends Boundaries {
     }
 
     private static void timerOf8() {
-        sentence("PART 4", "Of 8: RESET again, timer 30.");
+        sentence(PART_4, "Of 8: RESET again, timer 30.");
         Net n = pair(1);
         n.dial(0, 10);
         n.tick(3);
@@ -1036,7 +1139,8 @@ public final class CallBoundaryTest extends Boundaries {
     // ---------------------------------------------------------------- TALKS
 
     private static void talksFar() {
-        sentence("PART 4", "and that to the leg that it is joined to, and so on; a subscriber TALKING at the end is whom it talks with");
+        sentence(PART_4, "and that to the leg that it is joined to, and so on; a subscriber TALKING at the end is "
+            + "whom it talks with");
         Net n = row(6);
         n.dial(0, 53);
         n.tick(20);
@@ -1058,7 +1162,7 @@ public final class CallBoundaryTest extends Boundaries {
     }
 
     private static void talksNotYet() {
-        sentence("PART 4", "a circuit's end in 3 or 6 leads to its other end, if that is in 3 or 6");
+        sentence(PART_4, "a circuit's end in 3 or 6 leads to its other end, if that is in 3 or 6");
         Net n = row(3);
         n.dial(0, 20);
         n.tick(10);

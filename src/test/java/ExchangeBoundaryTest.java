@@ -1,5 +1,8 @@
 /** The boundary cases that PART 3 of the Terms names: one test for each sentence. */
 public final class ExchangeBoundaryTest extends Boundaries {
+    /** Where the sentences stand, and the promises by which they are seen. */
+    private static final String PART_3 = "Promises 7, 15, 16 and 19, PART 3";
+
     /** What flow() is asked for. */
     private static final int CURRENT = 0;
     private static final int HELD = 1;
@@ -25,6 +28,8 @@ public final class ExchangeBoundaryTest extends Boundaries {
         upToldStays();
         upToldStaysWhenHeld();
         changeoverTimer();
+        changeoverOfOneLink();
+        changeoverOfTwoLinks();
         changeoverAnsweredLast();
         changeoverOfNoService();
         overUnlessBecauseOfOver();
@@ -42,6 +47,7 @@ public final class ExchangeBoundaryTest extends Boundaries {
         endsByKinds();
         endsWithoutBacks();
         endsWithoutBacksThoughOpen();
+        endsInOrder();
         endsInOrderUpToSixtyFour();
         backedWhenFull();
         backedOfAnotherNumber();
@@ -52,26 +58,16 @@ public final class ExchangeBoundaryTest extends Boundaries {
         nextNeedsFlowZero();
         toldNothingAtFirst();
         toldOnce();
+        toldBehindAChangeover();
+        toldOnAndOn();
         toldClosedIfItIsNext();
         finish("boundaries of exchanges");
-    }
-
-    /** Link 1 beside link 0 of pair(1), active since tick 60: UP at both exchanges in tick 71. */
-    private static Net second() {
-        Net n = pair(1);
-        n.link(0, 1);
-        n.activate(1, true);
-        return n;
-    }
-
-    private static void tickTo(Net n, int tick) {
-        n.tick(tick - n.tick(0));
     }
 
     // ---------------------------------------------------------------- flows and BEST
 
     private static void flowsAtFirst() {
-        sentence("PART 3", "each with its CURRENT link, or none (at first), and perhaps HELD");
+        sentence(PART_3, "each with its CURRENT link, or none (at first), and perhaps HELD");
         Net n = still(2);
         n.activate(0, true);
         n.tick(5);
@@ -87,7 +83,7 @@ public final class ExchangeBoundaryTest extends Boundaries {
     }
 
     private static void bestByNumber() {
-        sentence("PART 3", "BEST for flow s, in a set of n links: the (s mod n)-th by number (from 0 on)");
+        sentence(PART_3, "BEST for flow s, in a set of n links: the (s mod n)-th by number (from 0 on)");
         for (int links = 1; links <= 4; links++) {
             Net n = pair(links);
             for (int s = 0; s < 4; s++) {
@@ -112,7 +108,7 @@ public final class ExchangeBoundaryTest extends Boundaries {
     }
 
     private static void bestRound() {
-        sentence("PART 3", "if it is IN SERVICE at this exchange, else the next of the set by numbers, round, that is");
+        sentence(PART_3, "if it is IN SERVICE at this exchange, else the next of the set by numbers, round, that is");
         Net n = pair(4);
         n.activate(3, false);
         n.tick(5);
@@ -129,10 +125,20 @@ public final class ExchangeBoundaryTest extends Boundaries {
             due(n.flow(1, 0, s, CURRENT), 2);
         }
         due(n.counted(LOST), 0);
+        // The next by numbers, not the lowest.
+        Net m = pair(4);
+        m.activate(1, false);
+        m.tick(5);
+        due(m.flow(0, 1, 1, CURRENT), 2);
+        m.activate(2, false);
+        m.tick(5);
+        due(m.flow(0, 1, 1, CURRENT), 3);
+        due(m.flow(0, 1, 2, CURRENT), 3);
+        due(m.flow(0, 1, 0, CURRENT), 0);
     }
 
     private static void bestNone() {
-        sentence("PART 3", "or none");
+        sentence(PART_3, "or none");
         Net n = pair(2);
         n.activate(0, false);
         n.activate(1, false);
@@ -147,7 +153,7 @@ public final class ExchangeBoundaryTest extends Boundaries {
     // ---------------------------------------------------------------- giving and routing
 
     private static void keptSixtyFive() {
-        sentence("PART 3", "a 65th that is kept .. is LOST");
+        sentence(PART_3, "a 65th that is kept .. is LOST");
         Net n = pair(1);
         n.activate(0, false);
         // The two OVERs have no way.
@@ -166,7 +172,7 @@ public final class ExchangeBoundaryTest extends Boundaries {
     }
 
     private static void keptForAChangeback() {
-        sentence("PART 3", "it is kept if that is held");
+        sentence(PART_3, "it is kept if that is held");
         Net n = second();
         n.tick(11);
         due(n.flow(0, 1, 1, HELD), 2);
@@ -179,7 +185,7 @@ public final class ExchangeBoundaryTest extends Boundaries {
     }
 
     private static void waitingSixtyFive() {
-        sentence("PART 3", "a 65th that .. waits there, is LOST");
+        sentence(PART_3, "a 65th that .. waits there, is LOST");
         Net n = pair(2);
         // Flows 0 and 2 share link 0, flow 1 has link 1.
         give(n, 0, 1, 0, 32);
@@ -205,7 +211,7 @@ public final class ExchangeBoundaryTest extends Boundaries {
     }
 
     private static void routedNowhere() {
-        sentence("PART 3", "else it is LOST");
+        sentence(PART_3, "else it is LOST");
         Net n = triangle();
         n.route(0, 1, NONE, NONE);
         n.block(0, 1, 0, true);
@@ -220,7 +226,7 @@ public final class ExchangeBoundaryTest extends Boundaries {
     }
 
     private static void routedBySecond() {
-        sentence("PART 3", "that is not PROHIBITED for d, and its flow is open; else of the second likewise");
+        sentence(PART_3, "that is not PROHIBITED for d, and its flow is open; else of the second likewise");
         Net n = triangle();
         n.route(0, 1, 2, 1);
         n.tick(5);
@@ -270,7 +276,8 @@ public final class ExchangeBoundaryTest extends Boundaries {
     }
 
     private static void hopsSeven() {
-        sentence("PART 3", "An exchange GETS a message: if it is for it, it is done .. else its HOPS rise by 1, and it is routed");
+        sentence(PART_3, "An exchange GETS a message: if it is for it, it is done .. else its HOPS rise by 1, and it "
+            + "is routed");
         Net n = ring();
         int done = n.counted(DONE);
         n.block(0, 4, 0, true);
@@ -287,7 +294,7 @@ public final class ExchangeBoundaryTest extends Boundaries {
     }
 
     private static void hopsEight() {
-        sentence("PART 3", "with the eighth it is LOST");
+        sentence(PART_3, "with the eighth it is LOST");
         Net n = ring();
         int done = n.counted(DONE);
         n.block(0, 4, 0, true);
@@ -308,7 +315,7 @@ public final class ExchangeBoundaryTest extends Boundaries {
     // ---------------------------------------------------------------- UP
 
     private static void upOfHeldFlows() {
-        sentence("PART 3", "UP of a link, at an exchange: each flow of its set, by number, that is not held");
+        sentence(PART_3, "UP of a link, at an exchange: each flow of its set, by number, that is not held");
         // Link 0 fails in tick 70, the flows are held for its changeover till 80; link 1 is UP in 71.
         Net n = second();
         n.tick(10);
@@ -327,7 +334,7 @@ public final class ExchangeBoundaryTest extends Boundaries {
     }
 
     private static void upBackWhenFull() {
-        sentence("PART 3", "a BACK .. is given to it, and then it is HELD for a changeback, timer 20");
+        sentence(PART_3, "a BACK .. is given to it, and then it is HELD for a changeback, timer 20");
         Net n = second();
         n.tick(10);
         give(n, 0, 1, 0, 64);
@@ -342,7 +349,7 @@ public final class ExchangeBoundaryTest extends Boundaries {
     }
 
     private static void upCountsChangebacks() {
-        sentence("PART 3", "how many changebacks that flow began, this one too, modulo 256");
+        sentence(PART_3, "how many changebacks that flow began, this one too, modulo 256");
         Net n = pair(3);
         // Links 0 and 1 fail in the 6th tick, flow 0 goes by 2. Link 1 is UP in the 28th; link 0, which
         // hears nothing for 30 ticks, in the 40th: two changebacks of flow 0 each time.
@@ -382,7 +389,7 @@ public final class ExchangeBoundaryTest extends Boundaries {
     }
 
     private static void upToldAnew() {
-        sentence("PART 3", "If none of the four was open ahead of all that, nothing counts as TOLD to the neighbour");
+        sentence(PART_3, "If none of the four was open ahead of all that, nothing counts as TOLD to the neighbour");
         Net n = pair(1);
         int done = n.counted(DONE);
         n.activate(0, false);
@@ -398,7 +405,7 @@ public final class ExchangeBoundaryTest extends Boundaries {
     }
 
     private static void upToldStays() {
-        sentence("PART 3", "If none of the four was open ahead of all that");
+        sentence(PART_3, "If none of the four was open ahead of all that");
         // All four are open: link 1 brings two BACKs and two BACKEDs each way, nothing else.
         Net n = second();
         int done = n.counted(DONE);
@@ -410,7 +417,7 @@ public final class ExchangeBoundaryTest extends Boundaries {
     }
 
     private static void upToldStaysWhenHeld() {
-        sentence("PART 3", "A flow is OPEN if it has a current link or is held.");
+        sentence(PART_3, "A flow is OPEN if it has a current link or is held.");
         // The flows are held when link 1 is UP, so they are open, and nothing is told anew.
         Net n = second();
         n.tick(10);
@@ -425,7 +432,7 @@ public final class ExchangeBoundaryTest extends Boundaries {
     // ---------------------------------------------------------------- changeovers
 
     private static void changeoverTimer() {
-        sentence("PART 3", "a CHANGEOVER of it is under way, timer 10 .. Timer OUT: it ends without a number.");
+        sentence(PART_3, "a CHANGEOVER of it is under way, timer 10 .. Timer OUT: it ends without a number.");
         Net n = pair(1);
         n.activate(0, false);
         due(n.flow(0, 1, 0, HELD), 1);
@@ -448,6 +455,64 @@ public final class ExchangeBoundaryTest extends Boundaries {
         due(m.flow(1, 0, 0, HELD), 1);
         m.tick(1);
         due(m.flow(1, 0, 0, HELD), 0);
+    }
+
+    private static void changeoverOfOneLink() {
+        sentence(PART_3, "the flows of its set with it as current link (also those that are held for a changeback, "
+            + "which ends) are HELD for it, without a current link");
+        Net n = pair(2);
+        n.activate(1, false);
+        for (int s = 0; s < 4; s++) {
+            due(n.flow(0, 1, s, HELD), s % 2);
+            due(n.flow(0, 1, s, CURRENT), s % 2 == 0 ? 0 : NONE);
+            due(n.flow(0, 1, s, CHANGEOVER), s % 2 == 0 ? NONE : 1);
+        }
+        // In tick 71 flows 1 and 3 are held for a changeback, with link 0 as current link: all four.
+        Net m = second();
+        m.tick(11);
+        due(m.flow(0, 1, 1, HELD), 2);
+        m.activate(0, false);
+        for (int s = 0; s < 4; s++) {
+            due(m.flow(0, 1, s, HELD), 1);
+            due(m.flow(0, 1, s, CURRENT), NONE);
+            due(m.flow(0, 1, s, CHANGEOVER), 0);
+        }
+        // Held for a changeback to link 1, which fails: it isn't the current one, they go on waiting.
+        Net k = second();
+        k.tick(11);
+        k.activate(1, false);
+        due(k.flow(0, 1, 1, HELD), 2);
+        due(k.flow(0, 1, 1, CURRENT), 0);
+        // Exchange 1 sends its BACK of flow 3, the OVER, and in tick 74 the BACKED of flow 1.
+        k.tick(3);
+        due(k.octet(0, 1, 3), 4);
+        due(k.flow(0, 1, 1, HELD), 2);
+        k.tick(1);
+        due(k.flow(0, 1, 1, HELD), 0);
+        due(k.flow(0, 1, 1, CURRENT), 0);
+    }
+
+    private static void changeoverOfTwoLinks() {
+        sentence(PART_3, "The flows that are held for it are held no more, and have BEST as current link, or none.");
+        Net n = pair(2);
+        n.activate(0, false);
+        n.tick(1);
+        n.activate(1, false);
+        n.tick(8);
+        for (int s = 0; s < 4; s++) {
+            due(n.flow(0, 1, s, HELD), 1);
+            due(n.flow(0, 1, s, CHANGEOVER), s % 2);
+        }
+        // That of link 0 is out in tick 70, that of link 1 a tick later.
+        n.tick(1);
+        for (int s = 0; s < 4; s++) {
+            due(n.flow(0, 1, s, HELD), s % 2);
+            due(n.flow(0, 1, s, CURRENT), NONE);
+            due(n.flow(0, 1, s, CHANGEOVER), s % 2 == 0 ? NONE : 1);
+        }
+        n.tick(1);
+        due(n.flow(0, 1, 1, HELD), 0);
+        due(n.flow(0, 1, 1, CURRENT), NONE);
     }
 
     /**
@@ -473,7 +538,7 @@ public final class ExchangeBoundaryTest extends Boundaries {
     }
 
     private static void changeoverAnsweredLast() {
-        sentence("PART 3", "OVERED (of l, r): .. it ends with r. Timer OUT: it ends without a number.");
+        sentence(PART_3, "OVERED (of l, r): .. it ends with r. Timer OUT: it ends without a number.");
         // Till the looking of tick 75. Behind seven the OVERED goes in 74: it arrives ahead of that.
         Net n = overedBehind(7);
         n.tick(7);
@@ -498,7 +563,7 @@ public final class ExchangeBoundaryTest extends Boundaries {
     }
 
     private static void changeoverOfNoService() {
-        sentence("PART 3", "An end that was IN SERVICE FAILS");
+        sentence(PART_3, "An end that was IN SERVICE FAILS");
         Net n = still(1);
         n.activate(0, true);
         n.tick(5);
@@ -515,7 +580,7 @@ public final class ExchangeBoundaryTest extends Boundaries {
     }
 
     private static void overUnlessBecauseOfOver() {
-        sentence("PART 3", "unless it failed because of an OVER that the exchange got");
+        sentence(PART_3, "unless it failed because of an OVER that the exchange got");
         Net n = overedBehind(0);
         // Exchange 1 sent the OVERED alone.
         due(n.octet(0, 1, 3), 2);
@@ -529,7 +594,7 @@ public final class ExchangeBoundaryTest extends Boundaries {
     }
 
     private static void otherWayFull() {
-        sentence("PART 3", "it waits there (as given, a 65th LOST)");
+        sentence(PART_3, "it waits there (as given, a 65th LOST)");
         Net n = pair(2);
         give(n, 0, 1, 0, 64);
         n.activate(1, false);
@@ -554,7 +619,7 @@ public final class ExchangeBoundaryTest extends Boundaries {
     }
 
     private static void otherWayByOthers() {
-        sentence("PART 3", "else it is routed to the neighbour, by others than the neighbour itself");
+        sentence(PART_3, "else it is routed to the neighbour, by others than the neighbour itself");
         Net n = triangle();
         n.activate(0, false);
         // The held flow to 1 is open, and 1 is told first for itself, but that isn't the other way.
@@ -570,7 +635,7 @@ public final class ExchangeBoundaryTest extends Boundaries {
     }
 
     private static void otherWayNone() {
-        sentence("PART 3", "The OTHER WAY to a neighbour: the lowest link of the set IN SERVICE here");
+        sentence(PART_3, "The OTHER WAY to a neighbour: the lowest link of the set IN SERVICE here");
         Net n = pair(1);
         n.activate(0, false);
         due(n.counted(LOST), 2);
@@ -602,7 +667,7 @@ public final class ExchangeBoundaryTest extends Boundaries {
     }
 
     private static void overOfAnotherLife() {
-        sentence("PART 3", "if the LIFE that it bears is not the PEER of the own end of l, nothing");
+        sentence(PART_3, "if the LIFE that it bears is not the PEER of the own end of l, nothing");
         Net n = lateOver();
         n.tick(3);
         due(n.octet(1, 1, 3), 1);
@@ -622,7 +687,7 @@ public final class ExchangeBoundaryTest extends Boundaries {
     }
 
     private static void overedOfAnotherLife() {
-        sentence("PART 3", "OVERED (of l, r): with another LIFE than the PEER likewise nothing");
+        sentence(PART_3, "OVERED (of l, r): with another LIFE than the PEER likewise nothing");
         Net n = lateOver();
         // Its second changeover, whose OVER has to wait behind 20 more.
         give(n, 2, 1, 0, 20);
@@ -641,7 +706,7 @@ public final class ExchangeBoundaryTest extends Boundaries {
     }
 
     private static void overOfLifeRoundTheEnd() {
-        sentence("PART 3", "and an OVER (the link and 16 times the end's LIFE, its TAKEN) goes the other way");
+        sentence(PART_3, "and an OVER (the link and 16 times the end's LIFE, its TAKEN) goes the other way");
         // Lives 14, 15, 0, 1 of link 1: each OVER is understood, and answered.
         Net n = pair(2);
         for (int life = 1; life <= 17; life++) {
@@ -686,7 +751,8 @@ public final class ExchangeBoundaryTest extends Boundaries {
     }
 
     private static void endsWithTheLast() {
-        sentence("PART 3", "with a number, those not acknowledged at this end up to that one, if it is one of them, are acknowledged");
+        sentence(PART_3, "with a number, those not acknowledged at this end up to that one, if it is one of them, "
+            + "are acknowledged");
         Net n = changeoverWith(pair(2), 3, 3);
         due(n.end(1, 1, TAKEN), 2);
         int sent = n.end(0, 0, SENT);
@@ -700,12 +766,14 @@ public final class ExchangeBoundaryTest extends Boundaries {
     }
 
     private static void endsWithOneOfThem() {
-        sentence("PART 3", "up to that one .. Then what is not acknowledged, in order, .. is given to its flow");
+        sentence(PART_3, "up to that one .. Then what is not acknowledged, in order, .. is given to its flow");
         Net n = changeoverWith(pair(2), 3, 1);
         due(n.end(1, 1, TAKEN), 0);
         int sent = n.end(0, 0, SENT);
         n.tick(2);
         due(n.end(1, 0, UNACKNOWLEDGED), 0);
+        // Some were acknowledged, but the end has failed: its timer of waiting stays as it is, none.
+        due(n.end(1, 0, PATIENCE), 0);
         n.tick(1);
         // The second, an UNBLOCK, and the third, a BLOCK, go by link 0, in order.
         due(n.octet(0, 0, 3), 13);
@@ -717,7 +785,7 @@ public final class ExchangeBoundaryTest extends Boundaries {
     }
 
     private static void endsWithNoneOfThem() {
-        sentence("PART 3", "if it is one of them");
+        sentence(PART_3, "if it is one of them");
         // Nothing was taken: TAKEN is 127, the numbers are 0, 1 and 2.
         Net n = changeoverWith(pair(2), 3, 0);
         due(n.end(1, 1, TAKEN), 127);
@@ -730,7 +798,7 @@ public final class ExchangeBoundaryTest extends Boundaries {
     }
 
     private static void endsRoundTheEnd() {
-        sentence("PART 3", "those not acknowledged at this end up to that one");
+        sentence(PART_3, "those not acknowledged at this end up to that one");
         // 126 messages went by link 1, numbers 0 to 125: the next are 126, 127, 0 and 1.
         Net n = pair(2);
         for (int i = 0; i < 3; i++) {
@@ -751,7 +819,7 @@ public final class ExchangeBoundaryTest extends Boundaries {
     }
 
     private static void endsWithoutANumber() {
-        sentence("PART 3", "without, all of them are LOST");
+        sentence(PART_3, "without, all of them are LOST");
         // No OVER gets through in time: at exchange 2 they wait behind 30 messages, both ways.
         Net n = triangle();
         give(n, 2, 0, 0, 30);
@@ -781,7 +849,8 @@ public final class ExchangeBoundaryTest extends Boundaries {
     }
 
     private static void endsByKinds() {
-        sentence("PART 3", "is given to its flow, if that is open, else, of kinds 7 and above, routed, and of others LOST");
+        sentence(PART_3, "is given to its flow, if that is open, else, of kinds 7 and above, routed, and of others "
+            + "LOST");
         Net n = triangle();
         // CLOSED (2) and OPENED (2), kinds 5 and 6, wait for 1; behind them an INITIAL, kind 7.
         n.route(0, 2, 1, NONE);
@@ -818,7 +887,7 @@ public final class ExchangeBoundaryTest extends Boundaries {
     }
 
     private static void endsWithoutBacks() {
-        sentence("PART 3", "but a BACK or BACKED just goes, it isn't LOST. Nothing is left there.");
+        sentence(PART_3, "but a BACK or BACKED just goes, it isn't LOST. Nothing is left there.");
         Net n = backsWait();
         n.activate(0, false);
         due(n.end(1, 0, WAITING), 1);
@@ -851,7 +920,7 @@ public final class ExchangeBoundaryTest extends Boundaries {
     }
 
     private static void endsWithoutBacksThoughOpen() {
-        sentence("PART 3", "but a BACK or BACKED just goes");
+        sentence(PART_3, "but a BACK or BACKED just goes");
         // Read so: it goes in any case, also when its flow is open, as here by link 1.
         Net n = backsWait();
         n.activate(0, false);
@@ -865,8 +934,35 @@ public final class ExchangeBoundaryTest extends Boundaries {
         due(n.counted(LOST), 0);
     }
 
+    private static void endsInOrder() {
+        sentence(PART_3, "Then what is not acknowledged, in order, then what waits at this end, in order, then what "
+            + "was kept of these flows, by flows, in order");
+        // Flows 1 and 3 have link 1: a BLOCK is sent, one waits; what is kept of flow 3 is older.
+        Net n = pair(2);
+        n.block(0, 1, 1, true);
+        n.tick(1);
+        n.block(0, 1, 3, true);
+        n.activate(1, false);
+        n.block(0, 1, 3, false);
+        n.block(0, 1, 1, false);
+        due(n.end(1, 0, UNACKNOWLEDGED), 1);
+        due(n.end(1, 0, WAITING), 1);
+        n.tick(2);
+        due(n.octet(0, 0, 3), 2);
+        int[] kinds = {13, 13, 14, 14};
+        int[] circuits = {1, 3, 1, 3};
+        for (int i = 0; i < 4; i++) {
+            n.tick(1);
+            due(n.octet(0, 0, 3), kinds[i]);
+            due(n.octet(0, 0, 8), circuits[i]);
+        }
+        n.tick(1);
+        due(n.octet(0, 0, 2), 0);
+    }
+
     private static void endsInOrderUpToSixtyFour() {
-        sentence("PART 3", "then what waits at this end, in order, then what was kept of these flows, by flows, in order");
+        sentence(PART_3, "then what waits at this end, in order, then what was kept of these flows, by flows, in "
+            + "order");
         Net n = pair(2);
         give(n, 0, 1, 0, 64);
         n.activate(0, false);
@@ -887,7 +983,7 @@ public final class ExchangeBoundaryTest extends Boundaries {
     // ---------------------------------------------------------------- changebacks
 
     private static void backedWhenFull() {
-        sentence("PART 3", "BACK, got: a BACKED (with both numbers) goes the other way to the sender.");
+        sentence(PART_3, "BACK, got: a BACKED (with both numbers) goes the other way to the sender.");
         Net n = second();
         n.tick(11);
         due(n.end(0, 1, WAITING), 1);
@@ -903,7 +999,7 @@ public final class ExchangeBoundaryTest extends Boundaries {
     }
 
     private static void backedOfAnotherNumber() {
-        sentence("PART 3", "and the second number is how many it began, modulo 256");
+        sentence(PART_3, "and the second number is how many it began, modulo 256");
         Net n = second();
         n.tick(10);
         // Numbered in the order in which they go, from tick 71 on: 30; the BACKs of flows 1 and 3 (31
@@ -943,7 +1039,7 @@ public final class ExchangeBoundaryTest extends Boundaries {
     }
 
     private static void backedNotHeld() {
-        sentence("PART 3", "if its flow (the first number) is held for a changeback");
+        sentence(PART_3, "if its flow (the first number) is held for a changeback");
         // As above: the BACKs that went once more are answered in tick 137 (flow 1) and 138 (flow 3).
         Net n = second();
         n.tick(10);
@@ -980,7 +1076,7 @@ public final class ExchangeBoundaryTest extends Boundaries {
     }
 
     private static void backedGivesUpToSixtyFour() {
-        sentence("PART 3", "BEST is its current link, and what was kept is given to it, in order");
+        sentence(PART_3, "BEST is its current link, and what was kept is given to it, in order");
         Net n = second();
         n.tick(11);
         give(n, 0, 1, 1, 64);
@@ -999,7 +1095,8 @@ public final class ExchangeBoundaryTest extends Boundaries {
     }
 
     private static void backAgain() {
-        sentence("PART 3", "Timer OUT: that BACK (with the same numbers) waits at its current link once more .. timer 20.");
+        sentence(PART_3, "Timer OUT: that BACK (with the same numbers) waits at its current link once more .. timer "
+            + "20.");
         Net n = second();
         n.tick(10);
         give(n, 0, 1, 0, 60);
@@ -1031,7 +1128,7 @@ public final class ExchangeBoundaryTest extends Boundaries {
     }
 
     private static void backAgainWhenFull() {
-        sentence("PART 3", "waits at its current link once more (as given, a 65th LOST), timer 20");
+        sentence(PART_3, "waits at its current link once more (as given, a 65th LOST), timer 20");
         Net n = second();
         n.tick(10);
         give(n, 0, 1, 0, 30);
@@ -1055,8 +1152,8 @@ public final class ExchangeBoundaryTest extends Boundaries {
     // ---------------------------------------------------------------- NEXT, and what is told
 
     private static void nextNeedsFlowZero() {
-        sentence("PART 3", "the first neighbour told for d, if it is not prohibited for d, and its flow 0 is open; else the second "
-            + "likewise; else none");
+        sentence(PART_3, "the first neighbour told for d, if it is not prohibited for d, and its flow 0 is open; "
+            + "else the second likewise; else none");
         Net n = triangle();
         due(n.next(0, 1, 0), 1);
         n.activate(0, false);
@@ -1071,7 +1168,7 @@ public final class ExchangeBoundaryTest extends Boundaries {
     }
 
     private static void toldNothingAtFirst() {
-        sentence("PART 3", "and a CLOSED (d) wasn't what it was TOLD latest of d (nothing at first)");
+        sentence(PART_3, "and a CLOSED (d) wasn't what it was TOLD latest of d (nothing at first)");
         Net n = row(3);
         due(n.link(0, 3), 2);
         for (int d = 1; d < 6; d++) {
@@ -1094,7 +1191,7 @@ public final class ExchangeBoundaryTest extends Boundaries {
     }
 
     private static void toldOnce() {
-        sentence("PART 3", "an OPENED (d) likewise in the other case");
+        sentence(PART_3, "an OPENED (d) likewise in the other case");
         Net n = row(3);
         // Looked at again and again, it is told no second time.
         for (int i = 0; i < 3; i++) {
@@ -1118,8 +1215,52 @@ public final class ExchangeBoundaryTest extends Boundaries {
         due(n.next(0, 2, 11), 0);
     }
 
+    private static void toldBehindAChangeover() {
+        sentence(PART_3, "It is LOOKED at behind route(), UP, an end's failing, the end of a changeover");
+        Net n = row(3);
+        n.activate(1, false);
+        // Held, the flow to 2 is open, and nothing has changed for 0.
+        due(n.next(1, 2, 20), 0);
+        due(n.end(0, 1, WAITING), 0);
+        n.tick(9);
+        due(n.next(1, 2, 20), 0);
+        n.tick(1);
+        due(n.next(1, 2, 20), 1);
+        due(n.octet(0, 1, 3), 5);
+        due(n.octet(0, 1, 8), 2);
+        n.activate(1, true);
+        n.tick(6);
+        due(n.next(1, 2, 20), 1);
+        // It starts in the 12th tick behind its failing, and is UP in the 17th.
+        n.tick(1);
+        due(n.next(1, 2, 20), 0);
+        due(n.octet(0, 1, 3), 6);
+        due(n.octet(0, 1, 8), 2);
+    }
+
+    private static void toldOnAndOn() {
+        sentence(PART_3, "CLOSED and OPENED (behind all else that these bring");
+        Net n = row(4);
+        due(n.next(0, 3, 0), 1);
+        n.route(2, 3, NONE, NONE);
+        // CLOSED (3) from 2 to 1 goes in the first tick, that from 1 to 0 in the second.
+        due(n.next(1, 3, 12), 0);
+        n.tick(2);
+        due(n.next(1, 3, 12), 1);
+        due(n.next(1, 3, 0), NONE);
+        due(n.next(1, 3, 20), 1);
+        due(n.octet(0, 1, 3), 5);
+        n.tick(1);
+        due(n.next(0, 3, 11), 1);
+        due(n.next(0, 3, 0), NONE);
+        n.route(2, 3, 3, NONE);
+        n.tick(3);
+        due(n.next(0, 3, 11), 0);
+        due(n.next(0, 3, 0), 1);
+    }
+
     private static void toldClosedIfItIsNext() {
-        sentence("PART 3", "a CLOSED (d) is given to flow 0, if NEXT of d is none, or it");
+        sentence(PART_3, "a CLOSED (d) is given to flow 0, if NEXT of d is none, or it");
         Net n = row(3);
         // For 2 exchange 0 asks 1, which is told CLOSED; of 3 there is no NEXT: CLOSED too.
         due(n.next(0, 2, 21), 1);

@@ -24,6 +24,7 @@ public final class FaceBoundaryTest extends Boundaries {
         hangRefused();
         blockRefused();
         endTimersNone();
+        endAtFirst();
         endRefused();
         endWhatStays();
         endRepeatsNotWhenFailed();
@@ -32,6 +33,7 @@ public final class FaceBoundaryTest extends Boundaries {
         octetOfLives();
         octetsOfLabel();
         octetLowestBits();
+        octetCheck();
         octetRefused();
         bitsCountedAnew();
         bitsRefused();
@@ -47,6 +49,7 @@ public final class FaceBoundaryTest extends Boundaries {
         subscriberTalksWithNobody();
         countedRefused();
         countedNoKind();
+        countedSecondNumbers();
         finish("boundaries of the promises");
     }
 
@@ -84,10 +87,17 @@ public final class FaceBoundaryTest extends Boundaries {
             due(n.circuit(0, 1, c, 0), 0);
             due(n.circuit(1, 0, c, 0), 0);
         }
-        due(n.next(0, 1, 0), NONE);
         n.activate(0, true);
         n.tick(10);
-        due(n.next(0, 1, 0), NONE);
+        // No routes: not even to a neighbour, nor to or by exchange 0.
+        for (int d = 0; d < 6; d++) {
+            due(n.next(0, d, 0), NONE);
+            due(n.next(1, d, 0), NONE);
+        }
+        due(n.dial(10, 0), true);
+        due(n.subscriber(10, 0), 5);
+        due(n.block(1, 0, 0, true), true);
+        due(n.counted(LOST), 1);
     }
 
     // ---------------------------------------------------------------- 2 link
@@ -164,8 +174,8 @@ public final class FaceBoundaryTest extends Boundaries {
     }
 
     private static void routeRefused() {
-        sentence("Promise 3", "False, and nothing: no such two, or one that is neither NONE nor an exchange other than x, "
-            + "or both the same exchange.");
+        sentence("Promise 3", "False, and nothing: no such two, or one that is neither NONE nor an exchange other "
+            + "than x, or both the same exchange.");
         Net n = triangle();
         for (int odd : ODD) {
             due(n.route(odd, 1, 2, NONE), false);
@@ -514,6 +524,10 @@ public final class FaceBoundaryTest extends Boundaries {
         due(n.block(0, 2, 0, true), false);
         due(n.block(0, 1, 0, false), false);
         dueAlike(n, pair(1));
+        Net m = triangle();
+        due(m.block(0, 1, 4, true), false);
+        due(m.block(0, 2, -1, true), false);
+        dueAlike(m, triangle());
         due(n.block(0, 1, 3, true), true);
         due(n.block(0, 1, 3, true), false);
         due(n.end(0, 0, WAITING), 1);
@@ -543,6 +557,17 @@ public final class FaceBoundaryTest extends Boundaries {
         due(n.end(0, 0, TIMER), 0);
     }
 
+    private static void endAtFirst() {
+        sentence("Promise 12", "2 SENT, 3 TAKEN, 4 FORWARD, 5 BACKWARD");
+        // As PART 2 tells them at first, also of a link that never was READY.
+        Net n = still(1);
+        int[] first = {0, 0, 127, 127, 1, 1, 0, 0, 0, 0, 0, 0, 0, 0, 0, 0};
+        for (int what = 0; what < 16; what++) {
+            due(n.end(0, 0, what), first[what]);
+            due(n.end(0, 1, what), first[what]);
+        }
+    }
+
     private static void endRefused() {
         sentence("Promise 12", "NONE for others, or no such end.");
         Net n = pair(1);
@@ -562,7 +587,8 @@ public final class FaceBoundaryTest extends Boundaries {
     }
 
     private static void endWhatStays() {
-        sentence("Promise 12", "(9 is 0 at first; 2 to 5 and 8 stay till it is READY anew, 9 till PROVING, 10 till it starts.)");
+        sentence("Promise 12", "(9 is 0 at first; 2 to 5 and 8 stay till it is READY anew, 9 till PROVING, 10 till "
+            + "it starts.)");
         Net n = still(2);
         due(n.end(0, 0, ROUND), 0);
         n.activate(0, true);
@@ -772,6 +798,39 @@ public final class FaceBoundaryTest extends Boundaries {
         }
     }
 
+    private static void octetCheck() {
+        sentence("Promise 13", "last the CHECK, two, the lowest first");
+        // The check of "123456789" is known to be 0x906E.
+        latestCall = "the test's own check";
+        due(check(new int[] {'1', '2', '3', '4', '5', '6', '7', '8', '9'}, 9), 0x906E);
+        // Of the shortest unit, a FILL, and of the longest, a MESSAGE; and of those between.
+        Net n = still(1);
+        n.activate(0, true);
+        for (int tick = 1; tick <= 8; tick++) {
+            n.tick(1);
+            int[] octets = new int[11];
+            int count = 3 + n.octet(0, 0, 2);
+            for (int i = 0; i < count; i++) {
+                octets[i] = n.octet(0, 0, i);
+            }
+            due(n.octet(0, 0, count), check(octets, count) % 256);
+            due(n.octet(0, 0, count + 1), check(octets, count) / 256);
+            due(n.octet(0, 0, count + 2), NONE);
+        }
+    }
+
+    /** A division by x^16 + x^12 + x^5 + 1 from the other end, octets and bits turned round. */
+    private static int check(int[] octets, int count) {
+        int rest = 0xFFFF;
+        for (int i = 0; i < count; i++) {
+            rest ^= Integer.reverse(octets[i]) >>> 16;
+            for (int bit = 0; bit < 8; bit++) {
+                rest = (rest & 0x8000) != 0 ? (rest << 1 ^ 0x1021) & 0xFFFF : rest << 1;
+            }
+        }
+        return Integer.reverse(~rest & 0xFFFF) >>> 16;
+    }
+
     private static void octetRefused() {
         sentence("Promise 13", "NONE when there is none such, and ahead of the end's first one.");
         Net n = new Net();
@@ -806,26 +865,16 @@ public final class FaceBoundaryTest extends Boundaries {
     // ---------------------------------------------------------------- 14 bits
 
     private static void bitsCountedAnew() {
-        sentence("Promise 14", "behind each five 1s side by side (of the octets' bits alone, counted anew behind each that was "
-            + "put in) a 0 is put in");
+        sentence("Promise 14", "behind each five 1s side by side (of the octets' bits alone, counted anew behind "
+            + "each that was put in) a 0 is put in");
         Net n = still(1);
-        boolean endedInFive = false;
         for (int tick = 0; tick < 18; tick++) {
             if (tick == 1 || tick == 14) {
                 n.activate(0, tick == 1);
             }
             n.tick(1);
-            StringBuilder line = new StringBuilder();
-            for (int i = 0; i < 13; i++) {
-                int octet = n.octet(0, 1, i);
-                for (int bit = 0; bit < 8 && octet != NONE; bit++) {
-                    line.append(octet >> bit & 1);
-                }
-            }
-            // Replaced from left to right, none of them twice: that is counting anew.
-            String stuffed = line.toString().replace("11111", "111110");
-            endedInFive |= line.toString().endsWith("11111");
-            due(n.bits(0, 1), stuffed.length());
+            String stuffed = stuffed(n);
+            due(n.bits(0, 0), stuffed.length());
         }
         // 16 ones in a row have three 0s put in, not one and not twelve.
         Net m = still(1);
@@ -833,8 +882,28 @@ public final class FaceBoundaryTest extends Boundaries {
         m.tick(1);
         due(m.octet(0, 0, 2), 1);
         due(m.bits(0, 0), 48 + 3);
-        latestCall = "a unit that ends in five 1s or more was among them";
-        due(endedInFive, true);
+        // The FILL of TAKEN 10 and number 8 has a check that ends in five 1s: behind them, too, is a 0.
+        Net k = pair(1);
+        give(k, 0, 1, 0, 5);
+        give(k, 1, 0, 0, 7);
+        k.tick(15);
+        due(k.octet(0, 0, 0), 10 + 128);
+        due(k.octet(0, 0, 1), 8 + 128);
+        due(stuffed(k).endsWith("111110"), true);
+        due(k.bits(0, 0), stuffed(k).length());
+    }
+
+    /** The unit that side 0 of link 0 sent latest, with all that is put in. */
+    private static String stuffed(Net n) {
+        StringBuilder line = new StringBuilder();
+        for (int i = 0; i < 13; i++) {
+            int octet = n.octet(0, 0, i);
+            for (int bit = 0; bit < 8 && octet != NONE; bit++) {
+                line.append(octet >> bit & 1);
+            }
+        }
+        // Replaced from left to right, none of them twice: that is counting anew.
+        return line.toString().replace("11111", "111110");
     }
 
     private static void bitsRefused() {
@@ -878,6 +947,10 @@ public final class FaceBoundaryTest extends Boundaries {
         due(n.flow(0, 1, 0, 4), NONE);
         due(n.flow(0, 1, 3, 1), 0);
         due(n.flow(1, 0, 3, 2), 0);
+        // Not the first flow to the next neighbour, nor the last one to that ahead.
+        Net m = triangle();
+        due(m.flow(0, 1, 4, 1), NONE);
+        due(m.flow(0, 2, -1, 1), NONE);
     }
 
     private static void flowChangeoverNone() {
@@ -972,6 +1045,10 @@ public final class FaceBoundaryTest extends Boundaries {
         due(n.circuit(0, 1, 0, 8), NONE);
         due(n.circuit(0, 1, 3, 7), 0);
         due(n.circuit(1, 0, 3, 0), 0);
+        // Not the first circuit to the next neighbour, nor the last one to that ahead.
+        Net m = triangle();
+        due(m.circuit(0, 1, 4, 0), NONE);
+        due(m.circuit(0, 2, -1, 0), NONE);
     }
 
     private static void circuitNoneWhenIdle() {
@@ -1030,7 +1107,8 @@ public final class FaceBoundaryTest extends Boundaries {
     private static void subscriberRefused() {
         sentence("Promise 18", "NONE for others, or no such one.");
         Net n = pair(1);
-        for (int number : new int[] {-10, -1, 4, 9, 14, 19, 54, 59, 60, 63, 100, Integer.MIN_VALUE, Integer.MAX_VALUE}) {
+        for (int number : new int[] {-10, -1, 4, 9, 14, 19, 54, 59, 60, 63, 100, Integer.MIN_VALUE,
+            Integer.MAX_VALUE}) {
             for (int what = 0; what < 3; what++) {
                 due(n.subscriber(number, what), NONE);
             }
@@ -1083,5 +1161,42 @@ public final class FaceBoundaryTest extends Boundaries {
         n.tick(1);
         due(n.counted(KIND), 5);
         due(n.counted(DONE), 2);
+    }
+
+    private static void countedSecondNumbers() {
+        sentence("Promise 19", "INITIAL has the called number and 64 times LENGTH as second number; others are 0");
+        Net n = pair(1);
+        n.dial(3, 13);
+        n.tick(1);
+        dueMessage(n, 0, 7, 0 + 4, 13 + 64);
+        n.tick(1);
+        dueMessage(n, 1, 8, 0 + 4, 0);
+        n.answer(13);
+        n.tick(1);
+        dueMessage(n, 1, 9, 0 + 4, 0);
+        n.block(0, 1, 3, true);
+        n.tick(1);
+        dueMessage(n, 0, 13, 3, 0);
+        n.hang(3);
+        n.tick(1);
+        dueMessage(n, 0, 10, 0 + 4, 0);
+        n.tick(1);
+        dueMessage(n, 1, 11, 0 + 4, 0);
+        // OPENED (1), from 0 to 2: its first number is the exchange.
+        n.tick(5);
+        n.route(0, 2, 1, NONE);
+        n.link(0, 2);
+        n.activate(1, true);
+        n.tick(6);
+        due(n.octet(1, 0, 3), 6);
+        due(n.octet(1, 0, 8), 1);
+        due(n.octet(1, 0, 9), 0);
+    }
+
+    private static void dueMessage(Net n, int side, int kind, int first, int second) {
+        due(n.octet(0, side, 3), kind);
+        due(n.octet(0, side, 8), first);
+        due(n.octet(0, side, 9), second);
+        due(n.octet(0, side, 10), 0);
     }
 }

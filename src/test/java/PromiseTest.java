@@ -1193,10 +1193,13 @@ public final class PromiseTest {
         x.tick(4);
         // A FILL of 255, 255, 0 and its check: 40 bits and six put in.
         due("bits(0, 0)", x.bits(0, 0), 46);
-        for (int i = 0; i < 60; i++) {
-            x.tick(1);
-            due("bits(0, 0)", x.bits(0, 0), stuffed(x, 0, 0));
-            due("bits(0, 1)", x.bits(0, 1), stuffed(x, 0, 1));
+        // A new object each time: 512 calls are promised, and spelling a unit takes many.
+        for (int i = 0; i < 30; i++) {
+            SignalNetwork y = new SignalNetwork();
+            y.link(0, 1);
+            y.activate(0, true);
+            y.tick(i);
+            due("bits(0, " + i % 2 + ")", y.bits(0, i % 2), i == 0 ? NONE : stuffed(y, 0, i % 2));
         }
         due("bits(0, 2)", x.bits(0, 2), NONE);
         due("bits(0, -1)", x.bits(0, -1), NONE);
@@ -1808,10 +1811,10 @@ public final class PromiseTest {
 
     private static void wrongArguments() {
         about = "wrong arguments";
-        SignalNetwork x = triangle();
         int[] all = {Integer.MIN_VALUE, -101, -11, -2, 6, 11, 64, 1 << 30, Integer.MAX_VALUE};
-        int before = x.counted(1) + 1000 * x.counted(2);
         for (int a : all) {
+            SignalNetwork x = triangle();
+            int before = x.counted(1) + 1000 * x.counted(2);
             for (int b : all) {
                 due("link", x.link(a, b), NONE);
                 due("route", x.route(a, b, a, b), false);
@@ -1830,7 +1833,7 @@ public final class PromiseTest {
             due("activate", x.activate(a, true), false);
             due("cut", x.cut(a, true), false);
             due("counted", x.counted(a), NONE);
+            due("nothing happened", x.counted(1) + 1000 * x.counted(2), before);
         }
-        due("nothing happened", x.counted(1) + 1000 * x.counted(2), before);
     }
 }

@@ -80,6 +80,7 @@ abstract class Boundaries {
     static void finish(String name) {
         endSentence();
         System.out.println(name + ": " + sentences + " sentences, " + wrong + " wrong answers");
+        sentences = 0;
         if (wrong != 0) {
             System.exit(1);
         }
@@ -127,6 +128,17 @@ abstract class Boundaries {
         return n;
     }
 
+    /**
+     * Link 1 beside link 0 of pair(1), active since tick 60: not urgent, PROVING of 8 from tick 63
+     * on, READY in 70, UP at both exchanges in 71.
+     */
+    static Net second() {
+        Net n = pair(1);
+        n.link(0, 1);
+        n.activate(1, true);
+        return n;
+    }
+
     /** Exchanges 0, 1, .. in a row, link i from i to i + 1, all in service at tick 60. */
     static Net row(int exchanges) {
         Net n = new Net();
@@ -165,6 +177,11 @@ abstract class Boundaries {
         }
         n.tick(60);
         return n;
+    }
+
+    /** Lets the ticks go by up to that one. */
+    static void tickTo(Net n, int tick) {
+        n.tick(tick - n.tick(0));
     }
 
     /** Gives so many messages to a flow: BLOCK and UNBLOCK in turn of a circuit that isn't blocked. */
