@@ -58,6 +58,7 @@ public final class ExchangeBoundaryTest extends Boundaries {
         nextNeedsFlowZero();
         toldNothingAtFirst();
         toldOnce();
+        toldThoughLost();
         toldBehindAChangeover();
         toldOnAndOn();
         toldClosedIfItIsNext();
@@ -1213,6 +1214,24 @@ public final class ExchangeBoundaryTest extends Boundaries {
         due(n.next(0, 2, 11), 1);
         n.tick(1);
         due(n.next(0, 2, 11), 0);
+    }
+
+    private static void toldThoughLost() {
+        sentence(PART_3, "a CLOSED (d) is given to flow 0, if .. a CLOSED (d) wasn't what it was TOLD latest of d");
+        // Read so: what was given was told, even if it is LOST as a 65th.
+        Net n = row(3);
+        give(n, 1, 0, 3, 64);
+        n.route(1, 2, NONE, NONE);
+        due(n.counted(LOST), 1);
+        due(n.next(1, 2, 20), 1);
+        n.route(1, 2, NONE, NONE);
+        due(n.counted(LOST), 1);
+        n.route(1, 2, 2, NONE);
+        due(n.counted(LOST), 2);
+        due(n.next(1, 2, 20), 0);
+        n.tick(70);
+        due(n.next(0, 2, 11), 0);
+        due(n.counted(LOST), 2);
     }
 
     private static void toldBehindAChangeover() {
